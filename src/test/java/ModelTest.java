@@ -59,8 +59,11 @@ public final class ModelTest {
     private int run(int number) throws IllegalAccessException {
         road = new PostRoad();
         model = new Model();
-        boolean big = chance(70);
-        if (big) {
+        if (chance(10)) {
+            call("undo");
+            lateHour();
+        }
+        if (chance(70)) {
             typeRoad();
             call("parse");
         }
@@ -76,6 +79,17 @@ public final class ModelTest {
             System.out.println("run " + number + ":\n" + told);
         }
         return wrong;
+    }
+
+    /** parse() would make it the hour 0 again: such a run has a road of two inns for a while. */
+    private void lateHour() throws IllegalAccessException {
+        for (int i = 0; i < 48; i++) {
+            call("pass", 200);
+        }
+        setUp();
+        for (int i = 0; i < 60; i++) {
+            anyCall();
+        }
     }
 
     private void setUp() throws IllegalAccessException {
@@ -142,7 +156,7 @@ public final class ModelTest {
     }
 
     private void addTeam() throws IllegalAccessException {
-        call("addTeam", number(1), chance(3) ? odd() : chance(50) ? 0 : below(101));
+        call("addTeam", number(1), chance(3) ? odd() : chance(40) ? 0 : 100 - below(101) * below(101) / 100);
     }
 
     private void giveLetter() throws IllegalAccessException {
