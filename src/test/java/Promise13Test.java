@@ -6,6 +6,7 @@ public final class Promise13Test {
         bothInns(check);
         asItIsNow(check);
         otherLettersDoNotCount(check);
+        mostTired(check);
         check.end();
     }
 
@@ -81,5 +82,24 @@ public final class Promise13Test {
         x.give(0, 1, false);
         check.due("why(0)", x.why(0), 0);
         check.due("why(1)", x.why(1), 0);
+    }
+
+    private static void mostTired(Check check) {
+        PostRoad x = new PostRoad();
+        x.give(0, 1, false);
+        for (int i = 0; i < 10; i++) {
+            check.due("why(0) with " + i + " teams", x.why(0), i == 0 ? 6 : 7);
+            x.addTeam(0, 100 - i / 5);
+        }
+        check.due("why(0) with ten teams", x.why(0), 7);
+        PostRoad y = new PostRoad();
+        y.give(0, 1, false);
+        for (int i = 0; i < 9; i++) {
+            y.addTeam(1, 0);
+        }
+        y.setInn(1, 6, 0, false);
+        check.due("why(0) with nine teams at six beds", y.why(0), 5);
+        y.addTeam(0, 90);
+        check.due("why(0) with nine teams at six beds", y.why(0), 5);
     }
 }

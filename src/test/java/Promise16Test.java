@@ -18,6 +18,9 @@ public final class Promise16Test {
         theHomeMatters(check);
         theNewTeamTakesABed(check);
         noRoomForOneMore(check);
+        atFiveHundred(check);
+        theLastInnOfEight(check);
+        scarceFodder(check);
         check.end();
     }
 
@@ -78,6 +81,45 @@ public final class Promise16Test {
         y.addTeam(1, 0);
         y.give(1, 0, false);
         check.due("bestInn() where inn 0 must stay free", y.bestInn(), 1);
+    }
+
+    /** Twelve letters over a steep stage, without fodder: the tiredness of the other team sets the hour of the last. */
+    private static void atFiveHundred(Check check) {
+        check.due("bestInn() of 500 hours", shuttle(72).bestInn(), 0);
+        check.due("bestInn() of 501 hours", shuttle(73).bestInn(), -1);
+        PostRoad x = shuttle(72);
+        x.addTeam(0, 0);
+        check.due("hoursToAll() with that team", x.hoursToAll(), 500);
+    }
+
+    private static PostRoad shuttle(int tiredness) {
+        PostRoad x = Check.road("8+5;");
+        x.setInn(0, 2, 0, false);
+        x.setInn(1, 6, 0, false);
+        x.addTeam(0, tiredness);
+        for (int i = 0; i < 12; i++) {
+            x.give(0, 1, false);
+        }
+        return x;
+    }
+
+    private static void theLastInnOfEight(Check check) {
+        PostRoad x = Check.road("1;1;1;1;1;1;1;");
+        x.give(7, 6, false);
+        check.due("bestInn() of eight", x.bestInn(), 7);
+    }
+
+    /** The new team eats nothing before it has run: one of tiredness 1 would eat at inn 1, and inn 0 would be best. */
+    private static void scarceFodder(Check check) {
+        PostRoad x = Check.road("9;");
+        x.setInn(0, 2, 0, false);
+        x.setInn(1, 2, 2, false);
+        x.addTeam(0, 65);
+        for (int i = 0; i < 4; i++) {
+            x.give(i < 2 ? 1 : 0, i < 2 ? 0 : 1, false);
+        }
+        check.due("bestInn() with scarce fodder", x.bestInn(), 1);
+        check.due("bestInn() with scarce fodder, by trying", byTrying(x), 1);
     }
 
     private static void noRoomForOneMore(Check check) {

@@ -8,6 +8,8 @@ public final class Promise22Test {
         everyByteAtEveryPlace(check);
         allAsAtFirst(check);
         undone(check);
+        behindAQuestion(check);
+        rowsUsedAgainAreFresh(check);
         check.end();
     }
 
@@ -129,6 +131,63 @@ public final class Promise22Test {
         check.badIndex(x, "stage(1, 0)", () -> x.stage(1, 0));
         check.badIndex(x, "team(0, 0)", () -> x.team(0, 0));
         check.badIndex(x, "letter(0, 0)", () -> x.letter(0, 0));
+    }
+
+    /** What was looked into by a what-if question is no part of the road that is read next. */
+    private static void behindAQuestion(Check check) {
+        PostRoad x = Check.road("1;2;3+3;4;");
+        long fresh = Digests.withoutSavedStates(x, 0);
+        x.setStage(2, 3, 1, true);
+        x.setInn(1, 5, 40, true);
+        x.setInn(1, 5, 40, false);
+        x.addTeam(0, 50);
+        x.addTeam(1, 50);
+        x.give(0, 1, true);
+        x.give(1, 2, true);
+        x.pass(5);
+        x.hoursToAll();
+        x.bestInn();
+        check.due("parse()", x.parse(), 5);
+        check.due("all answers", Digests.withoutSavedStates(x, 0), fresh);
+        check.due("value(8)", x.value(8), 0);
+        Check.type(x, "1;2;3+3;4;x");
+        x.parse();
+        check.due("all answers after a syntax error", Digests.withoutSavedStates(x, 0), fresh);
+        x.addTeam(0, 0);
+        check.due("addTeam(0, 0), then value(1)", x.value(1), 1);
+    }
+
+    /** Teams that stood, ran and walked, and letters on stages, leave nothing to those that come after parse(). */
+    private static void rowsUsedAgainAreFresh(Check check) {
+        for (int hours = 1; hours < 14; hours++) {
+            PostRoad x = busy();
+            x.pass(hours);
+            x.parse();
+            for (int i = 0; i < 3; i++) {
+                x.addTeam(1, 33);
+                x.give(2, 1, false);
+                for (int what = 0; what <= 9; what++) {
+                    int want = what == 0 || what == 2 ? 1 : what == 1 ? 33 : what == 4 ? -1 : 0;
+                    check.due("team(" + i + ", " + what + ") after " + hours, x.team(i, what), want);
+                }
+                int[] letter = {2, 1, 0, 0, 2, -1, -1, 0};
+                for (int what = 0; what <= 7; what++) {
+                    check.due("letter(" + i + ", " + what + ") after " + hours, x.letter(i, what), letter[what]);
+                }
+            }
+        }
+    }
+
+    private static PostRoad busy() {
+        PostRoad x = Check.road("3;1;");
+        x.setInn(1, 6, 100, false);
+        x.addTeam(0, 10);
+        x.addTeam(1, 0);
+        x.addTeam(2, 20);
+        x.give(0, 2, true);
+        x.give(1, 2, true);
+        x.give(1, 0, false);
+        return x;
     }
 
     private static void undone(Check check) {

@@ -7,6 +7,7 @@ public final class Promise23Test {
         questionsSaveNothing(check);
         theTextIsNotSaved(check);
         savedStatesAreKeptApart(check);
+        theDirectionComesBack(check);
         check.end();
     }
 
@@ -109,5 +110,24 @@ public final class Promise23Test {
             check.due("undo() of what happened behind an undo()", x.undo(), i);
             check.due("all answers after that", Digests.withoutSavedStates(x, 0), answers[i]);
         }
+    }
+
+    /** A team that is on a hill again after undo() tires by the effort of the direction in which it is. */
+    private static void theDirectionComesBack(Check check) {
+        PostRoad x = Check.road("2+3;");
+        x.addTeam(1, 0);
+        x.give(1, 0, false);
+        x.pass(1);
+        x.give(0, 1, true);
+        x.pass(2);
+        check.due("team(0, 7) toward inn 0", x.team(0, 7), 5);
+        check.due("team(0, 2) away from inn 0", x.team(0, 2), 1);
+        x.undo();
+        check.due("team(0, 2) toward inn 0", x.team(0, 2), 0);
+        check.due("hoursTo(1)", x.hoursTo(1), 4);
+        x.pass(2);
+        check.due("team(0, 7) toward inn 0", x.team(0, 7), 5);
+        x.pass(2);
+        check.due("team(0, 7) both ways", x.team(0, 7), 27);
     }
 }
