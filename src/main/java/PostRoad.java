@@ -610,7 +610,7 @@ public final class PostRoad {
         void passHour() {
             restTeams();
             moveTeams();
-            // Later letters have higher numbers, so ascending numbers are also ascending hours at which they were given.
+            // Later letters have higher numbers, so ascending numbers are ascending hours of giving, too.
             sendLetters(true);
             sendLetters(false);
             sendTeamsBack();
@@ -962,7 +962,7 @@ public final class PostRoad {
             length++;
         }
 
-        /** Sets the stages and the inns of a fresh road. Returns NONE, or the syntax error position, where it stopped. */
+        /** Sets the stages and the inns of a fresh road. Returns NONE, or the syntax error position. */
         int readInto(Road fresh) {
             at = 0;
             for (int i = 0; i < MOST_STAGES; i++) {
