@@ -6,7 +6,7 @@ import java.util.TreeMap;
 
 /** Random runs of 512 calls at most, each call's answer or exception compared with the model's. */
 public final class ModelTest {
-    private static final int RUNS = 400;
+    private static final int RUNS = 120;
     private static final int CALLS = 512;
     private static final Map<String, Method> OURS = methods(PostRoad.class);
     private static final Map<String, Method> MODELS = methods(Model.class);

@@ -1,34 +1,99 @@
 /** Promise 3: setInn. */
 public final class Promise03Test {
     public static void main(String[] args) {
-        Check check = new Check("Promise03Test");
-        PostRoad x = Check.road("1;1;");
-        check.due("setInn(2, 6, 999, true)", x.setInn(2, 6, 999, true), 100);
-        holds(check, x, 2, 6, 999, 1);
-        holds(check, x, 1, 2, 100, 0);
-        check.due("setInn(2, 0, 0, false)", x.setInn(2, 0, 0, false), 999);
-        holds(check, x, 2, 0, 0, 0);
-        check.due("setInn(0, 3, 5, true)", x.setInn(0, 3, 5, true), 100);
-        check.due("setInn(0, 3, 5, true) again", x.setInn(0, 3, 5, true), 5);
-        holds(check, x, 0, 3, 5, 1);
-
-        check.badIndex(x, "setInn(-1, 0, 0, false)", () -> x.setInn(-1, 0, 0, false));
-        check.badIndex(x, "setInn(3, 0, 0, false)", () -> x.setInn(3, 0, 0, false));
-        check.badIndex(x, "setInn(3, 7, 1000, false)", () -> x.setInn(3, 7, 1000, false));
-        check.badIndex(x, "setInn of the least number", () -> x.setInn(Integer.MIN_VALUE, 0, 0, false));
-        check.badArgument(x, "setInn(0, -1, 0, false)", () -> x.setInn(0, -1, 0, false));
-        check.badArgument(x, "setInn(0, 7, 0, false)", () -> x.setInn(0, 7, 0, false));
-        check.badArgument(x, "setInn(0, 0, -1, false)", () -> x.setInn(0, 0, -1, false));
-        check.badArgument(x, "setInn(0, 0, 1000, false)", () -> x.setInn(0, 0, 1000, false));
-
-        check.undoable(x, "setInn(1, 4, 40, true)", () -> x.setInn(1, 4, 40, true));
-        check.undoable(x, "setInn that changes nothing", () -> x.setInn(1, 2, 100, false));
+        Check check = new Check("Promise 3");
+        check.sentence("Sets an inn.", Promise03Test::sets);
+        check.sentence("Undoable.", Promise03Test::undoable);
+        check.sentence("- inn: number of an inn", Promise03Test::eachInn);
+        check.sentence("- beds: 0 to 6", Promise03Test::beds);
+        check.sentence("- fodder: 0 to 999", Promise03Test::fodder);
+        check.sentence("- shut: whether it is shut", Promise03Test::shut);
+        check.sentence("Returns its previous fodder.", Promise03Test::previousFodder);
+        check.sentence("Throws IndexOutOfBoundsException if there is no such inn", Promise03Test::noSuchInn);
+        check.sentence("Throws IllegalArgumentException if beds or fodder is out of range", Promise03Test::outOfRange);
         check.end();
     }
 
-    private static void holds(Check check, PostRoad x, int inn, int beds, int fodder, int shut) {
-        check.due("inn(" + inn + ", 0)", x.inn(inn, 0), beds);
-        check.due("inn(" + inn + ", 1)", x.inn(inn, 1), fodder);
-        check.due("inn(" + inn + ", 2)", x.inn(inn, 2), shut);
+    private static void sets(Check check) {
+        Run x = Run.road("1;1;");
+        x.setInn(2, 6, 999, true);
+        check.inn(x, 2, 6, 999, 1, 0, 0, 0, 6);
+        check.inn(x, 1, 2, 100, 0, 0, 0, 0, 2);
+        x.setInn(2, 0, 0, false);
+        check.inn(x, 2, 0, 0, 0, 0, 0, 0, 0);
+        x.setInn(2, 2, 100, false);
+        check.due("state, all as before", x.state(), Run.road("1;1;").state());
+    }
+
+    private static void undoable(Check check) {
+        check.undoable(Run.road("1;1;"), "setInn", x -> x.setInn(1, 4, 40, true));
+        check.undoable(Run.road("1;1;"), "setInn that changes nothing", x -> x.setInn(1, 2, 100, false));
+        check.undoable(TermsUndoTest.busy(), "setInn with teams", x -> x.setInn(1, 0, 0, true));
+    }
+
+    private static void eachInn(Check check) {
+        for (int inn = 0; inn < 8; inn++) {
+            Run x = Run.road("1;1;1;1;1;1;1;");
+            x.setInn(inn, 5, 7, true);
+            for (int i = 0; i < 8; i++) {
+                check.inn(x, i, i == inn ? 5 : 2, i == inn ? 7 : 100, i == inn ? 1 : 0);
+            }
+        }
+    }
+
+    private static void beds(Check check) {
+        for (int beds = 0; beds <= 6; beds++) {
+            Run x = new Run();
+            x.setInn(1, beds, 100, false);
+            check.inn(x, 1, beds, 100, 0, 0, 0, 0, beds);
+        }
+    }
+
+    private static void fodder(Check check) {
+        for (int fodder : new int[] {0, 1, 99, 100, 101, 998, 999}) {
+            Run x = new Run();
+            x.setInn(0, 2, fodder, true);
+            check.inn(x, 0, 2, fodder, 1);
+        }
+    }
+
+    private static void shut(Check check) {
+        Run x = new Run();
+        for (boolean shut : new boolean[] {true, true, false, false, true}) {
+            x.setInn(0, 2, 100, shut);
+            check.inn(x, 0, 2, 100, shut ? 1 : 0);
+        }
+    }
+
+    private static void previousFodder(Check check) {
+        Run x = Run.road("1;1;");
+        check.due("setInn(0), fodder 5", x.setInn(0, 3, 5, true), 100);
+        check.due("setInn(0), fodder 999", x.setInn(0, 3, 999, true), 5);
+        check.due("setInn(0), fodder 0", x.setInn(0, 6, 0, true), 999);
+        check.due("setInn(0), fodder 0 again", x.setInn(0, 6, 0, true), 0);
+        check.due("setInn(2), fodder 3", x.setInn(2, 6, 3, false), 100);
+        x.addTeam(2, 50);
+        x.pass(1);
+        check.due("setInn(2) of which one was eaten", x.setInn(2, 6, 9, false), 2);
+        x.undo();
+        check.due("setInn(2) after undo()", x.setInn(2, 6, 9, false), 2);
+    }
+
+    private static void noSuchInn(Check check) {
+        check.numbers(Run::new, "setInn", 2, (x, i) -> x.setInn(i, 1, 0, false));
+        check.numbers(() -> Run.road("1;1;"), "setInn", 3, (x, i) -> x.setInn(i, 1, 0, false));
+        check.numbers(() -> Run.road("1;1;1;1;1;1;1;"), "setInn", 8, (x, i) -> x.setInn(i, 1, 0, false));
+        check.badIndex(new Run(), "setInn(2, 7, 1000)", x -> x.setInn(2, 7, 1000, false));
+    }
+
+    private static void outOfRange(Check check) {
+        check.range(Run::new, "setInn, beds", 0, 6, (x, v) -> x.setInn(1, v, 0, false));
+        for (int fodder : new int[] {0, 999}) {
+            check.fits(new Run(), "setInn, fodder " + fodder, x -> x.setInn(1, 0, fodder, false));
+        }
+        for (int fodder : new int[] {-1, 1000, Integer.MIN_VALUE, Integer.MAX_VALUE}) {
+            check.badArgument(new Run(), "setInn, fodder " + fodder, x -> x.setInn(1, 0, fodder, false));
+        }
+        check.badArgument(new Run(), "setInn(0, 7, -1)", x -> x.setInn(0, 7, -1, true));
     }
 }

@@ -1,133 +1,94 @@
-/** Promise 23: undo. */
+/** Promise 23: undo; TermsUndoTest tells more of the saved states. */
 public final class Promise23Test {
     public static void main(String[] args) {
-        Check check = new Check("Promise23Test");
-        atMostFour(check);
-        eachUndoable(check);
-        questionsSaveNothing(check);
-        theTextIsNotSaved(check);
-        savedStatesAreKeptApart(check);
-        theDirectionComesBack(check);
+        Check check = new Check("Promise 23");
+        check.sentence("Restores the most recently saved state", Promise23Test::mostRecent);
+        check.sentence("and removes it from the saved states.", Promise23Test::removes);
+        check.sentence("Returns the number of saved states that remain.", Promise23Test::remaining);
+        check.sentence("Throws IllegalStateException if there is no saved state", Promise23Test::noneSaved);
         check.end();
     }
 
-    private static void atMostFour(Check check) {
-        PostRoad x = new PostRoad();
-        check.badState(x, "undo() of a new object", x::undo);
-        for (int i = 1; i <= 6; i++) {
-            x.setInn(0, 2, i, false);
-        }
-        for (int left = 3; left >= 0; left--) {
-            check.due("undo()", x.undo(), left);
-            check.due("inn(0, 1)", x.inn(0, 1), left + 2);
-        }
-        check.badState(x, "undo() without a saved state", x::undo);
-        x.setInn(0, 2, 77, false);
-        x.setInn(0, 2, 78, false);
-        check.due("undo()", x.undo(), 1);
-        check.due("inn(0, 1)", x.inn(0, 1), 77);
-        x.setInn(0, 2, 79, false);
-        check.due("undo()", x.undo(), 1);
-        check.due("undo()", x.undo(), 0);
+    private static void mostRecent(Check check) {
+        Run x = new Run();
+        x.setInn(0, 2, 1, false);
+        x.setInn(0, 2, 2, false);
+        x.setInn(0, 2, 3, false);
+        x.undo();
         check.due("inn(0, 1)", x.inn(0, 1), 2);
-    }
-
-    private static void eachUndoable(Check check) {
-        PostRoad x = Check.road("2;3;");
+        x.setInn(0, 2, 4, false);
         x.undo();
-        check.due("parse()", x.parse(), 3);
-        x.setStage(0, 2, 0, false);
-        x.collect();
-        x.pass(1);
-        check.due("undo() with four saved", x.undo(), 3);
-        x.addTeam(0, 0);
-        check.due("undo()", x.undo(), 3);
-        x.give(0, 1, false);
-        check.due("undo()", x.undo(), 3);
-        x.setInn(0, 0, 0, false);
-        check.due("undo()", x.undo(), 3);
-        check.due("undo() of collect()", x.undo(), 2);
-        check.due("undo() of setStage()", x.undo(), 1);
-        check.due("value(0)", x.value(0), 3);
-        check.due("undo() of parse()", x.undo(), 0);
-        check.due("value(0)", x.value(0), 2);
+        check.due("inn(0, 1)", x.inn(0, 1), 2);
+        x.undo();
+        check.due("inn(0, 1)", x.inn(0, 1), 1);
+        x.undo();
+        check.due("inn(0, 1)", x.inn(0, 1), 100);
+        acrossParse(check);
     }
 
-    private static void questionsSaveNothing(Check check) {
-        PostRoad x = new PostRoad();
-        x.addTeam(0, 0);
-        x.give(0, 1, false);
-        x.stage(0, 0);
-        x.inn(0, 0);
-        x.team(0, 0);
-        x.letter(0, 0);
-        x.value(0);
-        x.why(0);
-        x.hoursTo(0);
-        x.hoursToAll();
-        x.bestInn();
-        x.way(0, 1);
-        x.effortHome(0);
-        x.meanTiredness();
-        x.append('1');
-        x.parse();
+    /** The road before parse() comes back with its length, its teams and its letters; and then the one before that. */
+    private static void acrossParse(Check check) {
+        Run x = TermsUndoTest.busy();
+        Run before = x.again();
         x.clearText();
-        x.digest();
-        check.due("undo() of give()", x.undo(), 1);
-        check.due("value(2)", x.value(2), 0);
-        check.due("undo() of addTeam()", x.undo(), 0);
+        x.append("4;");
+        x.parse();
+        x.addTeam(0, 9);
+        check.due("undo() of addTeam()", x.undo(), 3);
+        check.values(x, 2, 0, 0, 0, 0, 0, 0, 0, 0, 0, 0);
+        check.due("undo() of parse()", x.undo(), 2);
+        x.clearText();
+        before.clearText();
+        for (int hours = 0; hours < 10; hours++) {
+            check.due("state " + hours + " hours behind undo() of parse()", x.state(), before.state());
+            x.pass(1);
+            before.pass(1);
+        }
+    }
+
+    private static void removes(Check check) {
+        Run x = new Run();
+        for (int i = 1; i <= 3; i++) {
+            x.addTeam(0, i);
+        }
+        for (int i = 2; i >= 0; i--) {
+            x.undo();
+            check.due("value(1)", x.value(1), i);
+        }
+        check.badState(x, "undo() of what is undone", Run::undo);
         check.due("value(1)", x.value(1), 0);
-    }
-
-    private static void theTextIsNotSaved(Check check) {
-        PostRoad x = new PostRoad();
-        Check.type(x, "1;");
-        x.addTeam(0, 0);
-        Check.type(x, "1;2;3;");
+        x.addTeam(1, 5);
         check.due("undo()", x.undo(), 0);
-        check.due("parse()", x.parse(), 4);
-        check.due("clearText()", x.clearText(), 6);
-        check.due("undo()", x.undo(), 0);
-        check.due("clearText()", x.clearText(), 0);
+        check.badState(x, "undo() of what is undone", Run::undo);
     }
 
-    /** All of a busy state comes back, and what happens behind an undo() does not reach the older states. */
-    private static void savedStatesAreKeptApart(Check check) {
-        PostRoad x = Check.road("2+3;1;3-2;");
-        for (int i = 0; i < 5; i++) {
-            x.addTeam(i % 4, 30 * (i % 3));
-            x.give(i % 4, (i + 1) % 4, i % 2 == 0);
-        }
-        long[] answers = new long[4];
-        for (int i = 0; i < 4; i++) {
-            answers[i] = Digests.withoutSavedStates(x, 0);
-            x.pass(1 + i);
-        }
-        for (int i = 3; i >= 0; i--) {
-            check.due("undo()", x.undo(), i);
-            check.due("all answers after undo()", Digests.withoutSavedStates(x, 0), answers[i]);
-            x.pass(7);
-            check.due("undo() of what happened behind an undo()", x.undo(), i);
-            check.due("all answers after that", Digests.withoutSavedStates(x, 0), answers[i]);
+    /** None to six undoable calls: as many as were saved, less this one. */
+    private static void remaining(Check check) {
+        for (int made = 1; made <= 6; made++) {
+            Run x = new Run();
+            for (int i = 0; i < made; i++) {
+                x.pass(1);
+            }
+            for (int left = Math.min(4, made) - 1; left >= 0; left--) {
+                check.due("undo() after " + made, x.undo(), left);
+                check.due("value(3) after " + made, x.value(3), made - Math.min(4, made) + left);
+            }
         }
     }
 
-    /** A team that is on a hill again after undo() tires by the effort of the direction in which it is. */
-    private static void theDirectionComesBack(Check check) {
-        PostRoad x = Check.road("2+3;");
-        x.addTeam(1, 0);
-        x.give(1, 0, false);
-        x.pass(1);
-        x.give(0, 1, true);
-        x.pass(2);
-        check.due("team(0, 7) toward inn 0", x.team(0, 7), 5);
-        check.due("team(0, 2) away from inn 0", x.team(0, 2), 1);
-        x.undo();
-        check.due("team(0, 2) toward inn 0", x.team(0, 2), 0);
-        check.due("hoursTo(1)", x.hoursTo(1), 4);
-        x.pass(2);
-        check.due("team(0, 7) toward inn 0", x.team(0, 7), 5);
-        x.pass(2);
-        check.due("team(0, 7) both ways", x.team(0, 7), 27);
+    private static void noneSaved(Check check) {
+        check.badState(new Run(), "undo() of a new object", Run::undo);
+        check.badState(Run.typed("1;"), "undo() with a text", Run::undo);
+        for (int made = 1; made <= 5; made++) {
+            Run x = new Run();
+            for (int i = 0; i < made; i++) {
+                x.give(0, 1, false);
+            }
+            while (x.undo() > 0) {
+                check.holds("letters are left", x.value(2) >= made - 4);
+            }
+            check.due("value(2)", x.value(2), Math.max(0, made - 4));
+            check.badState(x, "undo() after all of " + made, Run::undo);
+        }
     }
 }
