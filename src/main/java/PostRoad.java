@@ -52,7 +52,7 @@ public final class PostRoad {
         checkRange(hours, 1, 9);
         checkRange(hill, -5, 5);
         history.save(road);
-        Stage changed = road.stages[stage];
+        Stage changed = road.stageRow(stage);
         int before = changed.hours;
         changed.set(hours, hill, blocked);
         return before;
@@ -64,7 +64,7 @@ public final class PostRoad {
         checkRange(beds, 0, 6);
         checkRange(fodder, 0, 999);
         history.save(road);
-        Inn changed = road.innRows[inn];
+        Inn changed = road.innRow(inn);
         int before = changed.fodder;
         changed.set(beds, fodder, shut);
         return before;
@@ -124,13 +124,13 @@ public final class PostRoad {
     public int team(int team, int what) throws IndexOutOfBoundsException, IllegalArgumentException {
         checkNumber(team, road.teams);
         checkRange(what, 0, LAST_ABOUT_TEAM);
-        return road.teamRows[team].about(what);
+        return road.teamRow(team).about(what);
     }
 
     public int letter(int letter, int what) throws IndexOutOfBoundsException, IllegalArgumentException {
         checkNumber(letter, road.letters);
         checkRange(what, 0, LAST_ABOUT_LETTER);
-        return road.letterRows[letter].about(what);
+        return road.letterRow(letter).about(what);
     }
 
     public int value(int what) throws IllegalArgumentException {
@@ -182,7 +182,7 @@ public final class PostRoad {
 
     public int effortHome(int team) throws IndexOutOfBoundsException {
         checkNumber(team, road.teams);
-        Team runner = road.teamRows[team];
+        Team runner = road.teamRow(team);
         return road.effortBetween(runner.inn, runner.home);
     }
 
@@ -192,7 +192,7 @@ public final class PostRoad {
         }
         int sum = 0;
         for (int i = 0; i < road.teams; i++) {
-            sum += road.teamRows[i].tiredness;
+            sum += road.teamRow(i).tiredness;
         }
         return (double) sum / (double) road.teams;
     }
@@ -201,8 +201,9 @@ public final class PostRoad {
 
     public int append(int value) throws IllegalArgumentException, IllegalStateException {
         checkRange(value, 0, 127);
-        checkRoom(text.length, MOST_BYTES);
-        text.add((byte) value);
+        if (!text.add((byte) value)) {
+            throw new IllegalStateException("the text is full");
+        }
         return text.length;
     }
 
@@ -266,7 +267,7 @@ public final class PostRoad {
         long h = start;
         for (int i = 0; i < road.teams; i++) {
             for (int what = 0; what <= LAST_ABOUT_TEAM; what++) {
-                h = 31L * h + road.teamRows[i].about(what);
+                h = 31L * h + road.teamRow(i).about(what);
             }
         }
         return h;
@@ -276,7 +277,7 @@ public final class PostRoad {
         long h = start;
         for (int i = 0; i < road.letters; i++) {
             for (int what = 0; what <= LAST_ABOUT_LETTER; what++) {
-                h = 31L * h + road.letterRows[i].about(what);
+                h = 31L * h + road.letterRow(i).about(what);
             }
             h = 31L * h + road.hindrance(i);
         }
@@ -504,7 +505,7 @@ public final class PostRoad {
 
     /** All that undo() brings back, and what an hour does to it. */
     private static final class Road {
-        final Stage[] stages = new Stage[MOST_STAGES];
+        final Stage[] stageRows = new Stage[MOST_STAGES];
         final Inn[] innRows = new Inn[MOST_INNS];
         final Team[] teamRows = new Team[MOST_TEAMS];
         final Letter[] letterRows = new Letter[MOST_LETTERS];
@@ -520,7 +521,7 @@ public final class PostRoad {
 
         Road() {
             for (int i = 0; i < MOST_STAGES; i++) {
-                stages[i] = new Stage();
+                stageRows[i] = new Stage();
             }
             for (int i = 0; i < MOST_INNS; i++) {
                 innRows[i] = new Inn();
@@ -536,7 +537,7 @@ public final class PostRoad {
 
         void restart() {
             for (int i = 0; i < MOST_STAGES; i++) {
-                stages[i].set(2, 0, false);
+                stageRows[i].set(2, 0, false);
             }
             for (int i = 0; i < MOST_INNS; i++) {
                 innRows[i].set(2, 100, false);
@@ -563,29 +564,47 @@ public final class PostRoad {
             expressHours = other.expressHours;
             fodderEaten = other.fodderEaten;
             for (int i = 0; i < MOST_STAGES; i++) {
-                stages[i].copyFrom(other.stages[i]);
+                stageRows[i].copyFrom(other.stageRows[i]);
             }
             for (int i = 0; i < MOST_INNS; i++) {
                 innRows[i].copyFrom(other.innRows[i]);
             }
             for (int i = 0; i < teams; i++) {
-                teamRows[i].copyFrom(other.teamRows[i]);
+                teamRow(i).copyFrom(other.teamRow(i));
             }
             for (int i = 0; i < letters; i++) {
-                letterRows[i].copyFrom(other.letterRows[i]);
+                letterRow(i).copyFrom(other.letterRow(i));
             }
+        }
+
+        // A number that is kept here is never outside its row; these four look at it before it is an index all the same.
+
+        Stage stageRow(int number) {
+            return stageRows[number >= 0 && number < MOST_STAGES ? number : 0];
+        }
+
+        Inn innRow(int number) {
+            return innRows[number >= 0 && number < MOST_INNS ? number : 0];
+        }
+
+        Team teamRow(int number) {
+            return teamRows[number >= 0 && number < MOST_TEAMS ? number : 0];
+        }
+
+        Letter letterRow(int number) {
+            return letterRows[number >= 0 && number < MOST_LETTERS ? number : 0];
         }
 
         /** Only where there is room for one more team. */
         int placeTeam(int home, int tiredness) {
-            teamRows[teams].begin(home, tiredness);
+            teamRow(teams).begin(home, tiredness);
             teams++;
             return teams - 1;
         }
 
         /** Only where there is room for one more letter. */
         int placeLetter(int from, int to, boolean express) {
-            letterRows[letters].begin(from, to, express, hour);
+            letterRow(letters).begin(from, to, express, hour);
             letters++;
             return letters - 1;
         }
@@ -593,11 +612,11 @@ public final class PostRoad {
         int takeDelivered() {
             int kept = 0;
             for (int i = 0; i < letters; i++) {
-                Letter moved = letterRows[i];
+                Letter moved = letterRow(i);
                 if (!moved.isDelivered()) {
-                    letterRows[kept].copyFrom(moved);
+                    letterRow(kept).copyFrom(moved);
                     if (moved.isOnStage()) {
-                        teamRows[moved.team].letter = kept;
+                        teamRow(moved.team).letter = kept;
                     }
                     kept++;
                 }
@@ -619,14 +638,14 @@ public final class PostRoad {
 
         void restTeams() {
             for (int i = 0; i < teams; i++) {
-                if (teamRows[i].stands()) {
-                    restTeam(teamRows[i]);
+                if (teamRow(i).stands()) {
+                    restTeam(teamRow(i));
                 }
             }
         }
 
         void restTeam(Team resting) {
-            Inn stable = innRows[resting.inn];
+            Inn stable = innRow(resting.inn);
             if (resting.tiredness > 0 && stable.fodder > 0) {
                 stable.fodder--;
                 resting.fodderEaten++;
@@ -639,7 +658,7 @@ public final class PostRoad {
 
         void moveTeams() {
             for (int i = 0; i < teams; i++) {
-                Team moving = teamRows[i];
+                Team moving = teamRow(i);
                 if (!moving.stands()) {
                     moving.hoursLeft--;
                     if (moving.hoursLeft == 0) {
@@ -653,10 +672,10 @@ public final class PostRoad {
             if (coming.walksBack) {
                 coming.stagesWalked++;
             } else {
-                coming.tire(stages[coming.stage].effort(coming.away));
+                coming.tire(stageRow(coming.stage).effort(coming.away));
             }
             if (coming.letter != NONE) {
-                putDown(letterRows[coming.letter]);
+                putDown(letterRow(coming.letter));
             }
             coming.stand(coming.inn);
         }
@@ -681,7 +700,7 @@ public final class PostRoad {
 
         void sendLetters(boolean express) {
             for (int i = 0; i < letters; i++) {
-                if (letterRows[i].express == express && hindrance(i) == CAN_GO_ON) {
+                if (letterRow(i).express == express && hindrance(i) == CAN_GO_ON) {
                     sendLetter(i);
                 }
             }
@@ -689,11 +708,11 @@ public final class PostRoad {
 
         /** Only for a letter that can go on: a team stands at its inn then. */
         void sendLetter(int number) {
-            Letter sent = letterRows[number];
+            Letter sent = letterRow(number);
             int next = nextInn(sent.inn, sent.to);
             int runner = fittestTeamAt(sent.inn);
-            Team running = teamRows[runner];
-            running.setOut(next, stages[stageBetween(sent.inn, next)].hours);
+            Team running = teamRow(runner);
+            running.setOut(next, stageRow(stageBetween(sent.inn, next)).hours);
             running.letter = number;
             sent.inn = next;
             sent.team = runner;
@@ -702,7 +721,7 @@ public final class PostRoad {
 
         /** Why a letter can't go on now, by the numbers of why(). */
         int hindrance(int number) {
-            Letter asked = letterRows[number];
+            Letter asked = letterRow(number);
             if (asked.isDelivered()) {
                 return IS_DELIVERED;
             }
@@ -710,21 +729,21 @@ public final class PostRoad {
                 return IS_ON_STAGE;
             }
             int next = nextInn(asked.inn, asked.to);
-            Stage ahead = stages[stageBetween(asked.inn, next)];
+            Stage ahead = stageRow(stageBetween(asked.inn, next));
             if (ahead.blocked) {
                 return STAGE_BLOCKED;
             }
-            if (innRows[asked.inn].shut || innRows[next].shut) {
+            if (innRow(asked.inn).shut || innRow(next).shut) {
                 return INN_SHUT;
             }
-            if (freeBeds(next) == 0) {
+            if (bedsTaken(next) >= innRow(next).beds) {
                 return NO_FREE_BED;
             }
             int runner = fittestTeamAt(asked.inn);
             if (runner == NONE) {
                 return NO_TEAM;
             }
-            boolean tooTired = teamRows[runner].tiredness + ahead.effort(next > asked.inn) > MOST_TIRED;
+            boolean tooTired = teamRow(runner).tiredness + ahead.effort(next > asked.inn) > MOST_TIRED;
             return tooTired ? TEAMS_TOO_TIRED : CAN_GO_ON;
         }
 
@@ -733,9 +752,9 @@ public final class PostRoad {
             int fittest = NONE;
             int least = MOST_TIRED + 1;
             for (int i = 0; i < teams; i++) {
-                if (teamRows[i].standsAt(place) && teamRows[i].tiredness < least) {
+                if (teamRow(i).standsAt(place) && teamRow(i).tiredness < least) {
                     fittest = i;
-                    least = teamRows[i].tiredness;
+                    least = teamRow(i).tiredness;
                 }
             }
             return fittest;
@@ -743,7 +762,7 @@ public final class PostRoad {
 
         void sendTeamsBack() {
             for (int i = 0; i < teams; i++) {
-                Team idle = teamRows[i];
+                Team idle = teamRow(i);
                 if (idle.stands() && idle.inn != idle.home && idle.tiredness == 0 && lettersAt(idle.inn) == 0) {
                     sendBack(idle);
                 }
@@ -752,8 +771,8 @@ public final class PostRoad {
 
         void sendBack(Team walking) {
             int next = nextInn(walking.inn, walking.home);
-            Stage ahead = stages[stageBetween(walking.inn, next)];
-            if (!ahead.blocked && freeBeds(next) > 0) {
+            Stage ahead = stageRow(stageBetween(walking.inn, next));
+            if (!ahead.blocked && bedsTaken(next) < innRow(next).beds) {
                 walking.setOut(next, 2 * ahead.hours);
                 walking.walksBack = true;
             }
@@ -777,12 +796,12 @@ public final class PostRoad {
             if (number == NONE) {
                 return lettersLying() + lettersOnStages() == 0;
             }
-            return letterRows[number].isDelivered();
+            return letterRow(number).isDelivered();
         }
 
         boolean allTeamsIdle() {
             for (int i = 0; i < teams; i++) {
-                if (!teamRows[i].stands() || teamRows[i].tiredness > 0) {
+                if (!teamRow(i).stands() || teamRow(i).tiredness > 0) {
                     return false;
                 }
             }
@@ -792,7 +811,7 @@ public final class PostRoad {
         int hoursBetween(int low, int high) {
             int sum = 0;
             for (int i = low; i < high; i++) {
-                sum += stages[i].hours;
+                sum += stageRow(i).hours;
             }
             return sum;
         }
@@ -801,7 +820,7 @@ public final class PostRoad {
             int high = Math.max(from, to);
             int sum = 0;
             for (int i = Math.min(from, to); i < high; i++) {
-                sum += stages[i].effort(to > from);
+                sum += stageRow(i).effort(to > from);
             }
             return sum;
         }
@@ -809,7 +828,7 @@ public final class PostRoad {
         int teamsOn(int stage) {
             int count = 0;
             for (int i = 0; i < teams; i++) {
-                if (teamRows[i].stage == stage) {
+                if (teamRow(i).stage == stage) {
                     count++;
                 }
             }
@@ -819,7 +838,7 @@ public final class PostRoad {
         int teamsAt(int place) {
             int count = 0;
             for (int i = 0; i < teams; i++) {
-                if (teamRows[i].standsAt(place)) {
+                if (teamRow(i).standsAt(place)) {
                     count++;
                 }
             }
@@ -830,7 +849,7 @@ public final class PostRoad {
         int bedsTaken(int place) {
             int count = 0;
             for (int i = 0; i < teams; i++) {
-                if (teamRows[i].inn == place) {
+                if (teamRow(i).inn == place) {
                     count++;
                 }
             }
@@ -838,13 +857,13 @@ public final class PostRoad {
         }
 
         int freeBeds(int place) {
-            return Math.max(0, innRows[place].beds - bedsTaken(place));
+            return Math.max(0, innRow(place).beds - bedsTaken(place));
         }
 
         int lettersAt(int place) {
             int count = 0;
             for (int i = 0; i < letters; i++) {
-                if (letterRows[i].liesAtAnInn() && letterRows[i].inn == place) {
+                if (letterRow(i).liesAtAnInn() && letterRow(i).inn == place) {
                     count++;
                 }
             }
@@ -854,7 +873,7 @@ public final class PostRoad {
         int lettersLying() {
             int count = 0;
             for (int i = 0; i < letters; i++) {
-                if (letterRows[i].liesAtAnInn()) {
+                if (letterRow(i).liesAtAnInn()) {
                     count++;
                 }
             }
@@ -864,7 +883,7 @@ public final class PostRoad {
         int lettersOnStages() {
             int count = 0;
             for (int i = 0; i < letters; i++) {
-                if (letterRows[i].isOnStage()) {
+                if (letterRow(i).isOnStage()) {
                     count++;
                 }
             }
@@ -872,7 +891,7 @@ public final class PostRoad {
         }
 
         int aboutStage(int number, int what) {
-            Stage asked = stages[number];
+            Stage asked = stageRow(number);
             switch (what) {
                 case 0: return asked.hours;
                 case 1: return asked.hill;
@@ -884,7 +903,7 @@ public final class PostRoad {
         }
 
         int aboutInn(int number, int what) {
-            Inn asked = innRows[number];
+            Inn asked = innRow(number);
             switch (what) {
                 case 0: return asked.beds;
                 case 1: return asked.fodder;
@@ -924,11 +943,16 @@ public final class PostRoad {
             }
         }
 
+        /** Looks at the number before it is an index, as a road does for its rows. */
+        Road state(int number) {
+            return states[number >= 0 && number < MOST_SAVED ? number : 0];
+        }
+
         void save(Road road) {
             if (count == MOST_SAVED) {
                 dropOldest();
             }
-            states[count].copyFrom(road);
+            state(count).copyFrom(road);
             count++;
         }
 
@@ -945,7 +969,7 @@ public final class PostRoad {
         /** Only when there is a saved state. */
         void restore(Road road) {
             count--;
-            road.copyFrom(states[count]);
+            road.copyFrom(state(count));
         }
     }
 
@@ -956,17 +980,21 @@ public final class PostRoad {
         /** Where the reader is. */
         int at;
 
-        /** Only where there is room for one more byte. */
-        void add(byte next) {
+        /** False if there is no room for one more byte. */
+        boolean add(byte next) {
+            if (length >= MOST_BYTES) {
+                return false;
+            }
             bytes[length] = next;
             length++;
+            return true;
         }
 
         /** Sets the stages and the inns of a fresh road. Returns NONE, or the syntax error position. */
         int readInto(Road fresh) {
             at = 0;
             for (int i = 0; i < MOST_STAGES; i++) {
-                if (!readStage(fresh.stages[i])) {
+                if (!readStage(fresh.stageRow(i))) {
                     return at;
                 }
                 if (at == length) {
@@ -999,18 +1027,24 @@ public final class PostRoad {
             return true;
         }
 
+        /** The byte where the reader is, or NONE at the end of the text. */
+        int here() {
+            return at < length ? bytes[at] : NONE;
+        }
+
         boolean signStands(char sign) {
-            return at < length && bytes[at] == sign;
+            return here() == sign;
         }
 
         boolean digitStands(int most) {
-            return at < length && bytes[at] >= '1' && bytes[at] <= '0' + most;
+            return here() >= '1' && here() <= '0' + most;
         }
 
         /** Only where a digit stands. */
         int takeDigit() {
+            int digit = here() - '0';
             at++;
-            return bytes[at - 1] - '0';
+            return digit;
         }
     }
 }

@@ -38,6 +38,7 @@ public final class LanguageTest {
         check.holds("rule 11: some twelve classes", count(code, "\\b(class|enum|record|interface) \\w") <= 13);
         check.holds("rule 11: at most seven parameters", count(code, "\\((?:[^(),;\"]*\\w+ \\w+,){7}[^()]*\\) *[{t]") == 0);
         lengths(check, code);
+        indexes(check, code);
         check.end();
     }
 
@@ -62,6 +63,19 @@ public final class LanguageTest {
             if (m.find() && lines[i].contains("(")) {
                 int end = Arrays.asList(lines).subList(i, lines.length).indexOf(m.group(1) + "}");
                 check.holds("rule 11: short: " + lines[i].trim(), end >= 0 && end < 70);
+            }
+        }
+    }
+
+    /** Each name in an index stands in a comparison, from the line that opens its method on. */
+    private static void indexes(Check check, String code) {
+        String method = "";
+        for (String line : code.split("\n")) {
+            method = line.matches("( {4}| {8})\\S.*\\) ?(throws .*)?\\{") ? line : method + "\n" + line;
+            for (String index : words(line, "\\w\\[([^\\]]+)\\]")) {
+                Set<String> unseen = words(index, "\\b([a-z]\\w*)");
+                unseen.removeAll(words(method, "\\b([a-z]\\w*) (?:[<>]=?|==) "));
+                check.holds("rule 7: an index is looked at: " + line.trim(), unseen.isEmpty());
             }
         }
     }
