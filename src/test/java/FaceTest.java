@@ -1,15 +1,20 @@
+import java.io.IOException;
 import java.lang.reflect.Constructor;
 import java.lang.reflect.Field;
 import java.lang.reflect.Member;
 import java.lang.reflect.Method;
 import java.lang.reflect.Modifier;
+import java.nio.file.Files;
+import java.nio.file.Path;
 import java.util.Arrays;
 import java.util.Set;
 import java.util.TreeSet;
+import java.util.regex.Matcher;
+import java.util.regex.Pattern;
 import java.util.stream.Collectors;
 import java.util.stream.Stream;
 
-/** The public face is the document's, and nothing else can be seen. */
+/** The public face is the document's, and nothing else can be seen. It runs at the checkout's root. */
 public final class FaceTest {
     private static final String INDEX = " throws IndexOutOfBoundsException";
     private static final String ARGUMENT = " throws IllegalArgumentException";
@@ -42,7 +47,7 @@ public final class FaceTest {
         "public int undo()" + STATE,
         "public long digest()"};
 
-    public static void main(String[] args) {
+    public static void main(String[] args) throws IOException {
         Check check = new Check("FaceTest");
         Class<?> face = PostRoad.class;
         check.holds("public and final", face.getModifiers() == (Modifier.PUBLIC | Modifier.FINAL));
@@ -57,6 +62,7 @@ public final class FaceTest {
             check.holds(inside + " is not public or protected",
                 (inside.getModifiers() & (Modifier.PUBLIC | Modifier.PROTECTED)) == 0);
         }
+        headings(check);
         check.end();
     }
 
@@ -91,5 +97,22 @@ public final class FaceTest {
         Set<String> open = visible(face.getDeclaredMethods()).map(Member::getName).collect(Collectors.toSet());
         Arrays.stream(face.getDeclaredMethods()).filter(m -> Modifier.isPrivate(m.getModifiers()))
             .forEach(m -> check.holds(m + " bears no public method's name", !open.contains(m.getName())));
+    }
+
+    /** "Ahead of the calls .. the interface says: ---- ..": the source says it there, and has the calls in that order. */
+    private static void headings(Check check) throws IOException {
+        String due = "";
+        Matcher said = Pattern.compile("(?m)^Ahead of the calls (.*) the interface says: ---- (.*)\\.$")
+            .matcher(Files.readString(Path.of("../shared/DOC.md")));
+        while (said.find()) {
+            due += "---- " + said.group(2) + ", " + said.group(1).replace("`", "") + ", ";
+        }
+        String found = "";
+        Matcher line = Pattern.compile("(?m)^ {4}(?:// (---- .*)|public (?:int|long|double) (\\w+)\\(.*)$")
+            .matcher(Files.readString(Path.of("src/main/java/PostRoad.java")));
+        while (line.find()) {
+            found += (line.group(1) == null ? line.group(2) : line.group(1)) + ", ";
+        }
+        check.holds("it says \"" + found + "\", due is \"" + due + "\"", found.equals(due) && !due.isEmpty());
     }
 }
